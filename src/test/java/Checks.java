@@ -1,0 +1,72 @@
+import java.util.ArrayList;
+import java.util.List;
+
+/** Compares answers, prints each one that is not as due, and ends the test with exit code 1 if there was one. */
+final class Checks {
+    private int made = 0;
+    private int wrong = 0;
+
+    void same(String what, long got, long due) {
+        made++;
+        if (got != due) {
+            wrong++;
+            System.out.println(what + ": answered " + got + ", due is " + due);
+        }
+    }
+
+    void same(String what, String got, String due) {
+        made++;
+        if (!got.equals(due)) {
+            wrong++;
+            System.out.println(what + ": answered " + got + ", due is " + due);
+        }
+    }
+
+    void holds(String what, boolean got) {
+        same(what, got ? 1 : 0, 1);
+    }
+
+    /** The text runs to the end, and its value is written as due (see Texts.written). */
+    void value(String text, String due) {
+        ListMachine machine = Texts.machine(text);
+        same(text + " run", machine.run(), ListMachine.DONE);
+        same(text + " value", Texts.written(machine), due);
+    }
+
+    /** The run ends this way, so that there is no value to be written. */
+    void ends(String text, int due) {
+        ListMachine machine = Texts.machine(text);
+        same(text + " run", machine.run(), due);
+        same(text + " items", machine.items(), ListMachine.NONE);
+        same(text + " kind(0)", machine.kind(0), ListMachine.NONE);
+        same(text + " number(0)", machine.number(0), 0);
+    }
+
+    void prints(String text, int... due) {
+        ListMachine machine = Texts.machine(text);
+        List<Integer> dueList = new ArrayList<>();
+        for (int number : due) {
+            dueList.add(number);
+        }
+        same(text + " printed", machine.printed(), due.length);
+        List<Integer> got = new ArrayList<>();
+        for (int k = 0; k < machine.printed(); k++) {
+            got.add(machine.output(k));
+        }
+        same(text + " output", got.toString(), dueList.toString());
+    }
+
+    void counts(String text, int counted, int conses, int entries) {
+        ListMachine machine = Texts.machine(text);
+        same(text + " counted", machine.counted(), counted);
+        same(text + " conses", machine.conses(), conses);
+        same(text + " entries", machine.entries(), entries);
+    }
+
+    void end() {
+        System.out.println(made + " answers, " + wrong + " not as due");
+        if (wrong != 0) {
+            System.exit(1);
+        }
+    }
+}
