@@ -1,0 +1,66 @@
+import java.util.Arrays;
+
+/** All promises: on many texts, the program and the reference answer alike. */
+public final class ReferenceTest {
+    private static final int TEXTS = 60000;
+
+    private ReferenceTest() {
+    }
+
+    public static void main(String[] arguments) {
+        Checks checks = new Checks();
+        int[] endings = new int[9];
+        int[] seen = new int[5];
+        Generator generator = new Generator(arguments.length > 0 ? Long.parseLong(arguments[0]) : 1);
+        for (int i = 0; i < TEXTS; i++) {
+            int[] text = generator.text();
+            if (text.length <= 70) {
+                Reference reference = new Reference(text);
+                compare(checks, text, reference);
+                endings[reference.ending]++;
+                note(seen, reference);
+            }
+        }
+        System.out.println("endings " + Arrays.toString(endings));
+        System.out.println("printing, consing, entering, entering thrice, long " + Arrays.toString(seen));
+        for (int ending = 0; ending < endings.length; ending++) {
+            checks.holds("texts that end with " + ending, endings[ending] > 0);
+        }
+        for (int i = 0; i < seen.length; i++) {
+            checks.holds("texts of sort " + i, seen[i] > 0);
+        }
+        checks.end();
+    }
+
+    private static void note(int[] seen, Reference reference) {
+        seen[0] += reference.printed.isEmpty() ? 0 : 1;
+        seen[1] += reference.conses > 0 ? 1 : 0;
+        seen[2] += reference.entries > 0 ? 1 : 0;
+        seen[3] += reference.entries > 2 ? 1 : 0;
+        seen[4] += reference.isLong ? 1 : 0;
+    }
+
+    private static void compare(Checks checks, int[] text, Reference reference) {
+        ListMachine machine = Texts.machine(text);
+        String what = Arrays.toString(text);
+        checks.same(what + " reads", machine.reads() ? 1 : 0, reference.forms == ListMachine.NONE ? 0 : 1);
+        checks.same(what + " forms", machine.forms(), reference.forms);
+        checks.same(what + " run", machine.run(), reference.ending);
+        checks.same(what + " counted", machine.counted(), reference.counted);
+        checks.same(what + " conses", machine.conses(), reference.conses);
+        checks.same(what + " entries", machine.entries(), reference.entries);
+        checks.same(what + " printed", machine.printed(), reference.printed.size());
+        for (int k = 0; k < reference.printed.size(); k++) {
+            checks.same(what + " output " + k, machine.output(k), reference.printed.get(k));
+        }
+        int none = reference.isLong ? ListMachine.LONG : ListMachine.NONE;
+        int count = reference.items == null ? 0 : reference.items.size();
+        checks.same(what + " items", machine.items(), reference.items == null ? none : count);
+        for (int i = 0; i < count; i++) {
+            checks.same(what + " kind " + i, machine.kind(i), reference.items.get(i)[0]);
+            checks.same(what + " number " + i, machine.number(i), reference.items.get(i)[1]);
+        }
+        checks.same(what + " kind behind the last", machine.kind(count), ListMachine.NONE);
+        checks.same(what + " number behind the last", machine.number(count), 0);
+    }
+}
