@@ -161,6 +161,7 @@ public final class ListMachine {
     private final int[] frameNexts = new int[MOST_FRAMES];
     private int frameCount = 0;
 
+    // A step that only says what comes next (another form, another application) leaves the state.
     private int state = AT_FORM;
     private int ending = DONE;
     private long form = EMPTY;
@@ -235,7 +236,7 @@ public final class ListMachine {
 
     public int kind(int i) {
         perform();
-        // NONE and LONG are below 0, so that no i is below them as well as above -1.
+        // Where itemCount is NONE or LONG, it is below 0 and lets no i pass.
         return i >= 0 && i < itemCount ? itemKinds[i] : NONE;
     }
 
@@ -474,7 +475,7 @@ public final class ListMachine {
     }
 
     private void giveNumber(int number) {
-        value = (long) TAG_NUMBER << 32 | number & LOW_BITS;
+        value = ((long) TAG_NUMBER << 32) | (number & LOW_BITS);
         state = AT_VALUE;
     }
 
@@ -523,9 +524,7 @@ public final class ListMachine {
         } else {
             int place = innermostPlace(token);
             give(placeValues[place]);
-            if (value == NO_VALUE) {
-                ending = UNBOUND;
-            }
+            ending = value == NO_VALUE ? UNBOUND : GOING;
         }
     }
 
@@ -852,7 +851,6 @@ public final class ListMachine {
         applied = arguments[0];
         arguments[0] = tagged(TAG_CONTINUATION, continuationCount);
         continuationCount++;
-        state = AT_APPLICATION;
     }
 
     private void applyToList(long procedure, long list) {
@@ -868,7 +866,6 @@ public final class ListMachine {
         }
         argumentCount = length;
         applied = procedure;
-        state = AT_APPLICATION;
     }
 
     // ---- the value is written ----

@@ -192,5 +192,11 @@ public final class CountTest {
             CHECKS.same("call " + i, machine.kind(i), i == 0 ? 2 : i == 20 ? 3 : i < 20 ? 0 : ListMachine.NONE);
         }
         CHECKS.same("conses of the last run alone", machine.conses(), 19);
+        machine = Texts.machine("(define b (lambda (a) (callcc (lambda (c) (if (less 0 a) (b (sub a 1)) (c 'd)))))) (b 19)");
+        for (int i = 0; i < 480; i++) {
+            CHECKS.same("run " + i, machine.run(), ListMachine.DONE);
+        }
+        CHECKS.same("entries of the last run alone", machine.entries(), 1);
+        CHECKS.same("the value after many runs", Texts.written(machine), "d");
     }
 }

@@ -4,6 +4,9 @@ import java.util.Arrays;
 public final class ReferenceTest {
     private static final int TEXTS = 60000;
 
+    private static ListMachine machine = new ListMachine();
+    private static int calls = 0;
+
     private ReferenceTest() {
     }
 
@@ -16,7 +19,7 @@ public final class ReferenceTest {
             int[] text = generator.text();
             if (text.length <= 70) {
                 Reference reference = new Reference(text);
-                compare(checks, text, reference);
+                compare(checks, text, machineFor(text, reference), reference);
                 endings[reference.ending]++;
                 note(seen, reference);
             }
@@ -40,8 +43,20 @@ public final class ReferenceTest {
         seen[4] += reference.isLong ? 1 : 0;
     }
 
-    private static void compare(Checks checks, int[] text, Reference reference) {
-        ListMachine machine = Texts.machine(text);
+    /** The object that the text before was run on, as long as it may be used, so that what is left over would be seen. */
+    private static ListMachine machineFor(int[] text, Reference reference) {
+        int needed = 32 + reference.printed.size() + (reference.items == null ? 0 : 2 * reference.items.size());
+        calls += needed;
+        if (calls > 512) {
+            calls = needed;
+            machine = new ListMachine();
+        }
+        machine.clear();
+        Texts.append(machine, text);
+        return machine;
+    }
+
+    private static void compare(Checks checks, int[] text, ListMachine machine, Reference reference) {
         String what = Arrays.toString(text);
         checks.same(what + " reads", machine.reads() ? 1 : 0, reference.forms == ListMachine.NONE ? 0 : 1);
         checks.same(what + " forms", machine.forms(), reference.forms);

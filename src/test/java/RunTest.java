@@ -21,6 +21,8 @@ public final class RunTest {
         applyingToLists();
         ordersOfErrors();
         repeatedRuns();
+        otherTextsBefore();
+        firstQuestions();
         CHECKS.end();
     }
 
@@ -124,6 +126,9 @@ public final class RunTest {
         CHECKS.value("(begin 1 2 3)", "3");
         CHECKS.prints("(begin (print 1) (print 2) (print 3))", 1, 2, 3);
         CHECKS.value("1 2 3", "3");
+        CHECKS.prints("(begin false (print 1) (print 2))", 1, 2);
+        CHECKS.prints("false (print 1) (print 2)", 1, 2);
+        CHECKS.prints("((lambda () false (print 1) (print 2)))", 1, 2);
         CHECKS.prints("(print 4) (begin (print 5)) (print 6)", 4, 5, 6);
         CHECKS.ends("a 1", ListMachine.UNBOUND);
         CHECKS.prints("(print 1) a (print 2)", 1);
@@ -314,5 +319,43 @@ public final class RunTest {
         CHECKS.same("the value likewise", Texts.written(machine), "5");
         machine.untoken();
         CHECKS.same("the value of the text as it is now", Texts.written(machine), "( 1 . 2 )");
+    }
+
+    /** Nothing of an earlier run is left, however it ended. */
+    private static void otherTextsBefore() {
+        String[] before = {"(", "(car (cdr (car 1)))", "((lambda (a) (add 1 (car a))) 5)", "(define a 5) (set b 6)",
+            "((lambda (a b) (a b)) 1 2)", "(callcc (lambda (a) (a)))", "(define a (lambda () (add 1 (a)))) (a)",
+            "(define a '(1)) (setcdr a a) a", "'(4 5 6 7 8)", "(print 4) (cons 1 2) (callcc (lambda (a) (a (lambda () 1))))"};
+        for (String text : before) {
+            ListMachine machine = Texts.machine(text);
+            machine.items();
+            machine.clear();
+            Texts.append(machine, Texts.tokens("9"));
+            CHECKS.same("after " + text + " run", machine.run(), ListMachine.DONE);
+            CHECKS.same("after " + text + " value", Texts.written(machine), "9");
+            CHECKS.same("after " + text + " kind", machine.kind(1), ListMachine.NONE);
+            CHECKS.same("after " + text + " number", machine.number(1), 0);
+            CHECKS.same("after " + text + " number", machine.number(2), 0);
+            CHECKS.same("after " + text + " output", machine.output(0), 0);
+            CHECKS.same("after " + text + " counted", machine.counted(), 1);
+            CHECKS.same("after " + text + " others", machine.printed() + machine.conses() + machine.entries(), 0);
+            machine.clear();
+            Texts.append(machine, Texts.tokens("a"));
+            CHECKS.same("after " + text + " name", machine.run(), ListMachine.UNBOUND);
+        }
+    }
+
+    /** Each question is the first one about its text, and so can't lean on another's run. */
+    private static void firstQuestions() {
+        String text = "(callcc (lambda (a) (print 4) (a (cons 5 6))))";
+        CHECKS.same("run first", Texts.machine(text + "b").run(), ListMachine.UNBOUND);
+        CHECKS.same("items first", Texts.machine(text).items(), 5);
+        CHECKS.same("kind first", Texts.machine(text).kind(2), 4);
+        CHECKS.same("number first", Texts.machine(text).number(3), 6);
+        CHECKS.same("printed first", Texts.machine(text).printed(), 1);
+        CHECKS.same("output first", Texts.machine(text).output(0), 4);
+        CHECKS.same("counted first", Texts.machine(text).counted(), 17);
+        CHECKS.same("conses first", Texts.machine(text).conses(), 1);
+        CHECKS.same("entries first", Texts.machine(text).entries(), 1);
     }
 }

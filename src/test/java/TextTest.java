@@ -83,6 +83,13 @@ public final class TextTest {
         CHECKS.same("value at 70", Texts.written(machine), "5");
         CHECKS.same("last", machine.untoken(), 15);
         CHECKS.same("there is room again", machine.tokens(16, -1, -1, -1), 70);
+        for (int at = 0; at < 4; at++) {
+            machine.untoken();
+            CHECKS.same("three do not fit", machine.tokens(at == 0 ? -1 : 10, at == 1 ? -1 : 10, at == 2 ? -1 : 10,
+                at == 3 ? -1 : 10), ListMachine.FULL);
+            CHECKS.same("one fits", machine.tokens(at == 0 ? 17 : -1, at == 1 ? 17 : -1, at == 2 ? 17 : -1,
+                at == 3 ? 17 : -1), 70);
+        }
     }
 
     private static void takingOff() {
