@@ -1,5 +1,7 @@
 import java.util.ArrayList;
+import java.util.Arrays;
 import java.util.List;
+import java.util.function.ToIntFunction;
 
 /** Compares answers, prints each one that is not as due, and ends the test with exit code 1 if there was one. */
 final class Checks {
@@ -61,6 +63,25 @@ final class Checks {
         same(text + " counted", machine.counted(), counted);
         same(text + " conses", machine.conses(), conses);
         same(text + " entries", machine.entries(), entries);
+    }
+
+    /**
+     * The call answers the code, and changes nothing: all later answers are those of an object that
+     * did not get the call, and the tokens are the same.
+     */
+    void refused(String what, int[] text, ToIntFunction<ListMachine> call, int due) {
+        ListMachine machine = Texts.machine(text);
+        machine.run();
+        same(what, call.applyAsInt(machine), due);
+        same(what + ": the answers then", Answers.of(machine), Answers.of(Texts.machine(text)));
+        same(what + ": the tokens then", Answers.takenOff(machine), Arrays.toString(text) + " " + ListMachine.NONE);
+    }
+
+    /** How the run ends, and how many it has counted by then. */
+    void endsAt(String text, int ending, int counted) {
+        ListMachine machine = Texts.machine(text);
+        same(text + " run", machine.run(), ending);
+        same(text + " counted", machine.counted(), counted);
     }
 
     void end() {

@@ -1,202 +1,224 @@
-/** Promises 11 to 15: what the run prints, counts, makes and enters, whichever way it ends. */
+/**
+ * The document's sentences about what is counted, made and entered (its third term, promises 13 to
+ * 15), at their boundaries: 600 counted, one less and one more, met by each form and application.
+ */
 public final class CountTest {
     private static final Checks CHECKS = new Checks();
-
-    /** Counts 595 in 39 tokens. */
-    private static final String MOST = "(define b (lambda (a) (if (less 0 a) (b (sub a 1)) 0))) (b 19) (b 19) (b 2) ";
+    private static final int MOST = 600;
 
     private CountTest() {
     }
 
     public static void main(String[] arguments) {
-        printed();
-        outputs();
-        countedForms();
-        countedErrors();
-        tired();
-        tiredAtApplications();
+        counting();
+        everyFormAtTheLimit();
+        everyErrorAtTheLimit();
+        fullUpAtTheLimit();
+        loopsWithoutEnd();
+        printedAtTheLimit();
+        consesAtTheLimit();
+        entriesAtTheLimit();
+        chosenAtTheLimit();
         conses();
         entries();
-        manyFrames();
-        manyPlaces();
-        deepTexts();
-        manyCalls();
+        valuesGivenAreNotCounted();
         CHECKS.end();
     }
 
-    private static void printed() {
-        CHECKS.prints("1");
-        CHECKS.prints("(print 3)", 3);
-        CHECKS.prints("(print (sub 0 3)) (print 0)", -3, 0);
-        CHECKS.prints("(print 1) (print 2) (car 1)", 1, 2);
-        CHECKS.prints("(print 1) (print true)", 1);
-        CHECKS.prints("(print 1) (", new int[0]);
-        CHECKS.prints("(apply print '(6))", 6);
-        CHECKS.prints("(define a (lambda () (print 7) (print 8) 'a)) (a)", 7, 8);
-        String loop = "(define b (lambda (a) (print a) (if (less a LIMIT) (b (add a 1)) a))) (b 1)";
-        ListMachine twenty = Texts.machine(loop.replace("LIMIT", "(add 10 10)"));
-        CHECKS.same("20 printed: run", twenty.run(), ListMachine.DONE);
-        CHECKS.same("20 printed", twenty.printed(), 20);
-        CHECKS.same("20 printed: last", twenty.output(19), 20);
-        CHECKS.same("20 printed: behind the last", twenty.output(20), 0);
-        ListMachine more = Texts.machine(loop.replace("LIMIT", "(add 10 11)"));
-        CHECKS.same("21 printed: run", more.run(), ListMachine.FULL_UP);
-        CHECKS.same("21 printed", more.printed(), 20);
-        CHECKS.same("21 printed: last", more.output(19), 20);
-        CHECKS.same("21 printed: behind the last", more.output(20), 0);
-        ListMachine wrong = Texts.machine(loop.replace("LIMIT", "(add 10 10)") + " (print 'a)");
-        CHECKS.same("no number comes before full up", wrong.run(), ListMachine.TYPE);
-    }
-
-    private static void outputs() {
-        ListMachine machine = Texts.machine("(print 4) (print 5) 6");
-        CHECKS.same("output 0", machine.output(0), 4);
-        CHECKS.same("output 1", machine.output(1), 5);
-        for (int k : new int[] {-1, 2, 19, 20, 21, Integer.MIN_VALUE, Integer.MAX_VALUE}) {
-            CHECKS.same("output " + k, machine.output(k), 0);
-        }
-        machine.untoken();
-        machine.untoken();
-        CHECKS.same("output of an unreadable text", machine.output(0), 0);
-    }
-
-    private static void countedForms() {
+    /** "Each time that any form is worked out, and each time that something is applied, this is COUNTED". */
+    private static void counting() {
         CHECKS.counts("", 0, 0, 0);
         CHECKS.counts("1", 1, 0, 0);
-        CHECKS.counts("1 true cons", 3, 0, 0);
-        CHECKS.counts("'(1 2 3)", 1, 0, 0);
-        CHECKS.counts("''a", 1, 0, 0);
-        CHECKS.counts("(if true 1 2)", 3, 0, 0);
-        CHECKS.counts("(if false 1)", 2, 0, 0);
-        CHECKS.counts("(lambda (a) a a)", 1, 0, 0);
-        CHECKS.counts("(define a 1)", 2, 0, 0);
-        CHECKS.counts("(define a 1) (set a 2) a", 5, 0, 0);
-        CHECKS.counts("(begin 1 2 3)", 4, 0, 0);
-        CHECKS.counts("(add 1 2)", 5, 0, 0);
-        CHECKS.counts("((lambda (a) a a) 1)", 6, 0, 0);
-        CHECKS.counts("(apply add '(1 2))", 6, 0, 0);
-        CHECKS.counts("(callcc (lambda (a) (a 1)))", 9, 0, 1);
+        CHECKS.counts("1 2", 2, 0, 0);
+        CHECKS.counts("1 ".repeat(70), 70, 0, 0);
+        CHECKS.endsAt("(".repeat(35) + ")".repeat(35), ListMachine.SYNTAX, 35);
+        CHECKS.counts("(", 0, 0, 0);
+        CHECKS.counts("1 2 c 3", 3, 0, 0);
+        for (int counted = 0; counted <= MOST; counted++) {
+            CHECKS.endsAt(Counting.upTo(counted), ListMachine.DONE, counted);
+        }
     }
 
-    private static void countedErrors() {
-        CHECKS.counts("a", 1, 0, 0);
-        CHECKS.counts("if", 1, 0, 0);
-        CHECKS.counts("()", 1, 0, 0);
-        CHECKS.counts("(quote)", 1, 0, 0);
-        CHECKS.counts("(1)", 3, 0, 0);
-        CHECKS.counts("(car)", 3, 0, 0);
-        CHECKS.counts("(car 1)", 4, 0, 0);
-        CHECKS.counts("(set a 1)", 2, 0, 0);
-        CHECKS.counts("((lambda () 1) 2)", 4, 0, 0);
-        CHECKS.counts("(apply 1 2)", 5, 0, 0);
-        CHECKS.counts("(apply 1 '())", 6, 0, 0);
-        CHECKS.counts("(callcc 1)", 5, 0, 0);
-        CHECKS.counts("1 2 a 3", 3, 0, 0);
+    /** The form is DONE if there is room for all that it counts, and the run is TIRED at each step that there is none for. */
+    private static void atTheLimit(String form, int ending, int counts) {
+        CHECKS.endsAt(form, ending, counts);
+        for (int room = 0; room <= counts + 2; room++) {
+            String text = Counting.upTo(MOST - room) + form;
+            CHECKS.endsAt(text, room < counts ? ListMachine.TIRED : ending, Math.min(MOST, MOST - room + counts));
+            if (room < counts) {
+                CHECKS.ends(text, ListMachine.TIRED);
+            }
+        }
     }
 
-    private static void ends(String text, int ending, int counted) {
-        ListMachine machine = Texts.machine(text);
-        CHECKS.same(text + " run", machine.run(), ending);
-        CHECKS.same(text + " counted", machine.counted(), counted);
+    /** "this is COUNTED first; if 600 were counted before, the run is TIRED instead". */
+    private static void everyFormAtTheLimit() {
+        atTheLimit("5", ListMachine.DONE, 1);
+        atTheLimit("true", ListMachine.DONE, 1);
+        atTheLimit("false", ListMachine.DONE, 1);
+        atTheLimit("cons", ListMachine.DONE, 1);
+        atTheLimit("(define c 5) c", ListMachine.DONE, 3);
+        atTheLimit("'(1 2)", ListMachine.DONE, 1);
+        atTheLimit("(if true 1 2)", ListMachine.DONE, 3);
+        atTheLimit("(if false 1 2)", ListMachine.DONE, 3);
+        atTheLimit("(if false 1)", ListMachine.DONE, 2);
+        atTheLimit("(lambda (c) c c)", ListMachine.DONE, 1);
+        atTheLimit("(define c 5)", ListMachine.DONE, 2);
+        atTheLimit("(define c 5) (set c 6)", ListMachine.DONE, 4);
+        atTheLimit("(begin 1 2 3)", ListMachine.DONE, 4);
+        atTheLimit("((lambda () 5))", ListMachine.DONE, 4);
+        atTheLimit("((lambda (c d) c d) 1 2)", ListMachine.DONE, 7);
+        atTheLimit("(add 1 2)", ListMachine.DONE, 5);
+        atTheLimit("(isnull 1)", ListMachine.DONE, 4);
+        atTheLimit("(apply add '(1 2))", ListMachine.DONE, 6);
+        atTheLimit("(apply (lambda () 1) '())", ListMachine.DONE, 7);
+        atTheLimit("(callcc (lambda (c) 5))", ListMachine.DONE, 6);
+        atTheLimit("(callcc (lambda (c) (c 5)))", ListMachine.DONE, 9);
+        atTheLimit("(callcc ispair)", ListMachine.DONE, 5);
     }
 
-    private static void tired() {
-        ends(MOST, ListMachine.DONE, 595);
-        ends(MOST + "1 2 3 4", ListMachine.DONE, 599);
-        ends(MOST + "1 2 3 4 5", ListMachine.DONE, 600);
-        ends(MOST + "1 2 3 4 5 6", ListMachine.TIRED, 600);
-        ends(MOST + "1 2 3 4 5 a", ListMachine.TIRED, 600);
-        ends(MOST + "1 2 3 4 5 ()", ListMachine.TIRED, 600);
-        ends(MOST + "1 2 3 4 5 (if)", ListMachine.TIRED, 600);
-        ends(MOST + "1 2 3 4 a 6", ListMachine.UNBOUND, 600);
-        ends(MOST + "1 2 3 4 (if) 6", ListMachine.SYNTAX, 600);
-        ends(MOST + "1 2 3 (if true 4 5)", ListMachine.TIRED, 600);
-        ends(MOST + "1 2 3 (if false 4)", ListMachine.DONE, 600);
-        ends("(define a (lambda () (a))) (a)", ListMachine.TIRED, 600);
-        ends("((lambda (a) (a a)) (lambda (a) (a a)))", ListMachine.TIRED, 600);
-        ends("(define a (callcc (lambda (b) b))) (a a)", ListMachine.TIRED, 600);
-        ends("((callcc callcc) (callcc callcc))", ListMachine.TIRED, 600);
+    /** The same for what ends with an error: the error if it was counted before, else TIRED. */
+    private static void everyErrorAtTheLimit() {
+        atTheLimit("c", ListMachine.UNBOUND, 1);
+        atTheLimit("if", ListMachine.SYNTAX, 1);
+        atTheLimit("()", ListMachine.SYNTAX, 1);
+        atTheLimit("(quote)", ListMachine.SYNTAX, 1);
+        atTheLimit("(if 1)", ListMachine.SYNTAX, 1);
+        atTheLimit("(lambda)", ListMachine.SYNTAX, 1);
+        atTheLimit("(define 1 2)", ListMachine.SYNTAX, 1);
+        atTheLimit("(begin)", ListMachine.SYNTAX, 1);
+        atTheLimit("(set c 5)", ListMachine.UNBOUND, 2);
+        atTheLimit("(1)", ListMachine.NO_PROCEDURE, 3);
+        atTheLimit("(1 2)", ListMachine.NO_PROCEDURE, 4);
+        atTheLimit("((lambda () 1) 2)", ListMachine.ARGUMENTS, 4);
+        atTheLimit("(cons)", ListMachine.ARGUMENTS, 3);
+        atTheLimit("(car 1)", ListMachine.TYPE, 4);
+        atTheLimit("(add 1 true)", ListMachine.TYPE, 5);
+        atTheLimit("(print true)", ListMachine.TYPE, 4);
+        atTheLimit("(apply 1 2)", ListMachine.TYPE, 5);
+        atTheLimit("(apply 1 '())", ListMachine.NO_PROCEDURE, 6);
+        atTheLimit("(apply add '())", ListMachine.ARGUMENTS, 6);
+        atTheLimit("(callcc 1)", ListMachine.NO_PROCEDURE, 5);
+        atTheLimit("(callcc (lambda (c) (c)))", ListMachine.ARGUMENTS, 8);
     }
 
-    private static void tiredAtApplications() {
-        ends(MOST + "1 2 (car)", ListMachine.ARGUMENTS, 600);
-        ends(MOST + "1 2 3 (car)", ListMachine.TIRED, 600);
-        ends(MOST + "1 2 3 (1)", ListMachine.TIRED, 600);
-        ends(MOST + "(apply 1 2)", ListMachine.TYPE, 600);
-        ends(MOST + "1 (apply 1 2)", ListMachine.TIRED, 600);
-        ends(MOST + "(apply 1 '())", ListMachine.TIRED, 600);
-        ends(MOST + "1 (callcc 1)", ListMachine.TIRED, 600);
-        ends(MOST + "(callcc 1)", ListMachine.NO_PROCEDURE, 600);
-        ListMachine prints = Texts.machine(MOST + "1 (print 1)");
-        CHECKS.same("the last that is counted prints", prints.printed(), 1);
-        prints = Texts.machine(MOST + "1 2 (print 1)");
-        CHECKS.same("a tired run does not print", prints.printed(), 0);
-        ListMachine conses = Texts.machine(MOST + "(cons 1 2)");
-        CHECKS.same("the last that is counted makes a pair", conses.conses(), 1);
-        conses = Texts.machine(MOST + "0 (cons 1 2)");
-        CHECKS.same("a tired run makes none", conses.conses(), 0);
+    /** The same for FULL_UP: the first (b 19) prints 20, and all but the last print counts 594. */
+    private static void fullUpAtTheLimit() {
+        String printed = "(define b (lambda (a) (c a) (if (less 0 a) (b (sub a 1)) 0))) (define c print) (b 19) (set c isnull) (b 12) ";
+        CHECKS.endsAt(printed, ListMachine.DONE, 594);
+        CHECKS.endsAt(printed + "0 (print 8)", ListMachine.FULL_UP, 599);
+        CHECKS.endsAt(printed + "0 0 (print 8)", ListMachine.FULL_UP, MOST);
+        CHECKS.endsAt(printed + "0 0 0 (print 8)", ListMachine.TIRED, MOST);
+        CHECKS.same("printed before", Texts.machine(printed).printed(), 20);
     }
 
+    /** Runs that would never end are TIRED, with 600 counted. */
+    private static void loopsWithoutEnd() {
+        String[] loops = {"(define a (lambda () (a))) (a)", "((lambda (a) (a a)) (lambda (a) (a a)))",
+            "(define a (callcc (lambda (b) b))) (a a)", "((callcc callcc) (callcc callcc))",
+            "(define a (lambda () (add 1 (a)))) (a)", "(define a (lambda () (define b (a)))) (a)",
+            "(define a (lambda (b) (a (cons b b)))) (a 1)", "(define a (lambda (b c d e) (a b c d e))) (a 1 2 3 4)",
+            "(define a (lambda () (begin (a) 1))) (a)", "(define a (lambda () (if (a) 1 2))) (a)",
+            "(define a (lambda () (lambda () 1) (a))) (a)", "(define a (lambda (b) (callcc a))) (a 1)",
+            "(define f '(0 1)) (setcar f apply) (setcar (cdr f) f) (apply apply f)"};
+        for (String loop : loops) {
+            CHECKS.endsAt(loop, ListMachine.TIRED, MOST);
+            CHECKS.ends(loop, ListMachine.TIRED);
+            CHECKS.holds(loop + " reads", Texts.machine(loop).reads());
+        }
+    }
+
+    private static String fill(int room) {
+        return Counting.upTo(MOST - room);
+    }
+
+    /** What is TIRED instead does not print. */
+    private static void printedAtTheLimit() {
+        for (int room = 0; room <= 5; room++) {
+            ListMachine machine = Texts.machine(fill(room) + "(print 7)");
+            CHECKS.same("print with room for " + room, machine.printed(), room >= 4 ? 1 : 0);
+            CHECKS.same("output with room for " + room, machine.output(0), room >= 4 ? 7 : 0);
+        }
+    }
+
+    /** What is TIRED instead makes no pair. */
+    private static void consesAtTheLimit() {
+        for (int room = 0; room <= 6; room++) {
+            ListMachine machine = Texts.machine(fill(room) + "(cons 1 2)");
+            CHECKS.same("cons with room for " + room, machine.conses(), room >= 5 ? 1 : 0);
+        }
+    }
+
+    /** What is TIRED instead does not go on with a continuation; one that does may be tired behind it. */
+    private static void entriesAtTheLimit() {
+        for (int room = 6; room <= 11; room++) {
+            ListMachine machine = Texts.machine(fill(room) + "(callcc (lambda (c) (c 5))) 6");
+            CHECKS.same("entry with room for " + room, machine.entries(), room >= 9 ? 1 : 0);
+            CHECKS.same("run with room for " + room, machine.run(), room >= 10 ? ListMachine.DONE : ListMachine.TIRED);
+        }
+    }
+
+    /** Only the form that is chosen is counted. */
+    private static void chosenAtTheLimit() {
+        CHECKS.endsAt(fill(3) + "(if true 1 (add 1 (add 1 (add 1 1))))", ListMachine.DONE, MOST);
+        CHECKS.endsAt(fill(3) + "(if false (add 1 (add 1 (add 1 1))) 1)", ListMachine.DONE, MOST);
+        CHECKS.endsAt(fill(2) + "(if false (add 1 (add 1 (add 1 1))))", ListMachine.DONE, MOST);
+        CHECKS.endsAt(fill(1) + "(lambda () (add 1 (add 1 (add 1 1))))", ListMachine.DONE, MOST);
+        CHECKS.endsAt(fill(1) + "'(add 1 (add 1 (add 1 1)))", ListMachine.DONE, MOST);
+    }
+
+    /** "How many pairs the run makes with cons": not with reading, nor if cons is not applied to two. */
     private static void conses() {
-        CHECKS.counts("'(1 2 3)", 1, 0, 0);
-        CHECKS.counts("(cons 1 2)", 5, 1, 0);
-        CHECKS.counts("(cons 1 (cons 2 '()))", 9, 2, 0);
-        CHECKS.counts("(apply cons '(1 2))", 6, 1, 0);
+        CHECKS.counts("cons", 1, 0, 0);
+        CHECKS.counts("'(cons 1 2)", 1, 0, 0);
+        CHECKS.counts("(lambda () (cons 1 2))", 1, 0, 0);
+        CHECKS.counts("(cons)", 3, 0, 0);
         CHECKS.counts("(cons 1)", 4, 0, 0);
-        CHECKS.counts("(cons 1 2) (car 0)", 9, 1, 0);
-        CHECKS.counts("(setcar '(1) 2)", 5, 0, 0);
+        CHECKS.counts("(cons 1 2)", 5, 1, 0);
+        CHECKS.counts("(cons 1 2 3)", 6, 0, 0);
+        CHECKS.counts("(cons 1 (cons 2 3))", 9, 2, 0);
+        CHECKS.counts("(apply cons '(1 2))", 6, 1, 0);
+        CHECKS.counts("(cons 1 2) c", 6, 1, 0);
+        CHECKS.counts("(cons 1 c)", 4, 0, 0);
+        CHECKS.counts("(setcar '(1) 2) (setcdr '(1) 2)", 10, 0, 0);
+        CHECKS.counts("(cons 1 2) (", 0, 0, 0);
+        ListMachine many = Texts.machine("(define a (lambda () (cons 1 2) (a))) (a)");
+        CHECKS.same("many pairs: run", many.run(), ListMachine.TIRED);
+        // 2 for the define, 3 for the first application, 8 for each turn: 74 of them, then 3 more.
+        CHECKS.same("many pairs", many.conses(), 74);
     }
 
+    /** "How many times the run goes on with a continuation": only where one is applied to one value. */
     private static void entries() {
-        CHECKS.counts("(callcc (lambda (a) 1))", 6, 0, 0);
-        CHECKS.counts("(callcc (lambda (a) (a 1) (a 2)))", 9, 0, 1);
-        CHECKS.counts("(callcc (lambda (a) (a)))", 8, 0, 0);
-        CHECKS.counts("(callcc (lambda (a) (a 1 2)))", 10, 0, 0);
-        CHECKS.counts("(callcc (lambda (a) (apply a '(1))))", 11, 0, 1);
-        CHECKS.counts("(callcc (lambda (a) (a b)))", 8, 0, 0);
-        CHECKS.counts("(callcc (lambda (a) (a 1))) b", 10, 0, 1);
-    }
-
-    /** Each entry goes through many waiting defines, none of which is counted again. */
-    private static void manyFrames() {
-        ends("(define b 0) (define d (lambda (a) (define e (if (less 0 a) (d (sub a 1)) (callcc (lambda (c) (set b c) 0)))))) "
-            + "(d 19) (b 1)", ListMachine.TIRED, 600);
-        ends("(define b 0) (define a (define a (define a (define a (define a (define a (callcc (lambda (c) (set b c))))))))) (b b)",
-            ListMachine.TIRED, 600);
-    }
-
-    private static void manyPlaces() {
-        ends("(define e '(1 2 3 4)) (define f (lambda (a b c d) (apply f e))) (apply f e)", ListMachine.TIRED, 600);
-        ends("(define f (lambda (a b c d) (apply f '(1 2 3 4)))) (f 1 2 3 4)", ListMachine.TIRED, 600);
-        ends("(define f '(0 1)) (setcar f apply) (setcar (cdr f) f) (apply apply f)", ListMachine.TIRED, 600);
-        ends("(define a (lambda (b) (cons b (a b)))) (a 1)", ListMachine.TIRED, 600);
-        ends("(define a (lambda (b) (a (cons b b)))) (a 1)", ListMachine.TIRED, 600);
-    }
-
-    private static void deepTexts() {
-        CHECKS.same("34 lists", Texts.machine("'" + "(".repeat(34) + ")".repeat(34)).items(), 68);
-        CHECKS.same("39 marks", Texts.machine("'".repeat(39) + "1").items(), 115);
-        CHECKS.same("40 marks", Texts.machine("'".repeat(40) + "1").items(), 118);
-        CHECKS.same("41 marks", Texts.machine("'".repeat(41) + "1").items(), ListMachine.LONG);
-        CHECKS.same("69 marks", Texts.machine("'".repeat(69) + "1").items(), ListMachine.LONG);
-        CHECKS.same("70 marks", Texts.machine("'".repeat(70)).run(), ListMachine.UNREADABLE);
-        CHECKS.same("70 open", Texts.machine("(".repeat(70)).run(), ListMachine.UNREADABLE);
-        CHECKS.same("70 close", Texts.machine(")".repeat(70)).run(), ListMachine.UNREADABLE);
-        CHECKS.same("35 lists", Texts.machine("(".repeat(35) + ")".repeat(35)).run(), ListMachine.SYNTAX);
-        CHECKS.same("35 lists counted", Texts.machine("(".repeat(35) + ")".repeat(35)).counted(), 35);
-    }
-
-    private static void manyCalls() {
-        ListMachine machine = Texts.machine("(define b (lambda (a) (if (less 0 a) (cons a (b (sub a 1))) '()))) (b 19)");
-        for (int i = 0; i < 400; i++) {
-            CHECKS.same("call " + i, machine.kind(i), i == 0 ? 2 : i == 20 ? 3 : i < 20 ? 0 : ListMachine.NONE);
+        CHECKS.counts("(callcc (lambda (c) 5))", 6, 0, 0);
+        CHECKS.counts("(callcc (lambda (c) c))", 6, 0, 0);
+        CHECKS.counts("(callcc (lambda (c) (c)))", 8, 0, 0);
+        CHECKS.counts("(callcc (lambda (c) (c 5)))", 9, 0, 1);
+        CHECKS.counts("(callcc (lambda (c) (c 5 6)))", 10, 0, 0);
+        CHECKS.counts("(callcc (lambda (c) (c 5) (c 6)))", 9, 0, 1);
+        CHECKS.counts("(callcc (lambda (c) (c d)))", 8, 0, 0);
+        CHECKS.counts("(callcc (lambda (c) (c (c 5))))", 11, 0, 1);
+        CHECKS.counts("(callcc (lambda (c) (c 5))) d", 10, 0, 1);
+        CHECKS.counts("(callcc callcc)", 6, 0, 1);
+        String again = "(define a 0) (define d (callcc (lambda (c) c))) (set a (add a 1)) (if (less a LAST) (d d)) a";
+        for (int last = 1; last <= 10; last++) {
+            ListMachine machine = Texts.machine(again.replace("LAST", "" + last));
+            CHECKS.same("entries with " + last, machine.entries(), last - 1);
+            CHECKS.same("value with " + last, Texts.written(machine), "" + last);
         }
-        CHECKS.same("conses of the last run alone", machine.conses(), 19);
-        machine = Texts.machine("(define b (lambda (a) (callcc (lambda (c) (if (less 0 a) (b (sub a 1)) (c 'd)))))) (b 19)");
-        for (int i = 0; i < 480; i++) {
-            CHECKS.same("run " + i, machine.run(), ListMachine.DONE);
-        }
-        CHECKS.same("entries of the last run alone", machine.entries(), 1);
-        CHECKS.same("the value after many runs", Texts.written(machine), "d");
+        ListMachine many = Texts.machine("(define a (callcc (lambda (c) c))) (a a)");
+        // 7 until a has its value, 4 for each entry: 148 of them, then 1 more.
+        CHECKS.same("many entries", many.entries(), 148);
+    }
+
+    /** Values that waiting defines, sets and forms are given count nothing, however many wait. */
+    private static void valuesGivenAreNotCounted() {
+        String nested = "(define c ".repeat(15) + "5" + ")".repeat(15);
+        CHECKS.counts(nested, 16, 0, 0);
+        CHECKS.value(nested + " c", "_");
+        CHECKS.endsAt("(define b 0) (define a (define a (define a (define a (define a (define a (callcc (lambda (c) (set b c)))))))))"
+            + " (b b)", ListMachine.TIRED, MOST);
+        CHECKS.endsAt("(define b 0) (define d (lambda (a) (define e (if (less 0 a) (d (sub a 1)) "
+            + "(callcc (lambda (c) (set b c) 0)))))) (d 19) (b 1)", ListMachine.TIRED, MOST);
     }
 }
