@@ -84,6 +84,29 @@ final class Checks {
         same(text + " counted", machine.counted(), counted);
     }
 
+    /** The program answers as the reference does, whatever it is asked. */
+    void alike(String what, ListMachine machine, Reference reference) {
+        same(what + " reads", machine.reads() ? 1 : 0, reference.forms == ListMachine.NONE ? 0 : 1);
+        same(what + " forms", machine.forms(), reference.forms);
+        same(what + " run", machine.run(), reference.ending);
+        same(what + " counted", machine.counted(), reference.counted);
+        same(what + " conses", machine.conses(), reference.conses);
+        same(what + " entries", machine.entries(), reference.entries);
+        same(what + " printed", machine.printed(), reference.printed.size());
+        for (int k = 0; k < reference.printed.size(); k++) {
+            same(what + " output " + k, machine.output(k), reference.printed.get(k));
+        }
+        int none = reference.isLong ? ListMachine.LONG : ListMachine.NONE;
+        int count = reference.items == null ? 0 : reference.items.size();
+        same(what + " items", machine.items(), reference.items == null ? none : count);
+        for (int i = 0; i < count; i++) {
+            same(what + " kind " + i, machine.kind(i), reference.items.get(i)[0]);
+            same(what + " number " + i, machine.number(i), reference.items.get(i)[1]);
+        }
+        same(what + " kind behind the last", machine.kind(count), ListMachine.NONE);
+        same(what + " number behind the last", machine.number(count), 0);
+    }
+
     void end() {
         System.out.println(made + " answers, " + wrong + " not as due");
         if (wrong != 0) {

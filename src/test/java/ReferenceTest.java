@@ -19,7 +19,7 @@ public final class ReferenceTest {
             int[] text = generator.text();
             if (text.length <= 70) {
                 Reference reference = new Reference(text);
-                compare(checks, text, machineFor(text, reference), reference);
+                checks.alike(Arrays.toString(text), machineFor(text, reference), reference);
                 endings[reference.ending]++;
                 note(seen, reference);
             }
@@ -54,28 +54,5 @@ public final class ReferenceTest {
         machine.clear();
         Texts.append(machine, text);
         return machine;
-    }
-
-    private static void compare(Checks checks, int[] text, ListMachine machine, Reference reference) {
-        String what = Arrays.toString(text);
-        checks.same(what + " reads", machine.reads() ? 1 : 0, reference.forms == ListMachine.NONE ? 0 : 1);
-        checks.same(what + " forms", machine.forms(), reference.forms);
-        checks.same(what + " run", machine.run(), reference.ending);
-        checks.same(what + " counted", machine.counted(), reference.counted);
-        checks.same(what + " conses", machine.conses(), reference.conses);
-        checks.same(what + " entries", machine.entries(), reference.entries);
-        checks.same(what + " printed", machine.printed(), reference.printed.size());
-        for (int k = 0; k < reference.printed.size(); k++) {
-            checks.same(what + " output " + k, machine.output(k), reference.printed.get(k));
-        }
-        int none = reference.isLong ? ListMachine.LONG : ListMachine.NONE;
-        int count = reference.items == null ? 0 : reference.items.size();
-        checks.same(what + " items", machine.items(), reference.items == null ? none : count);
-        for (int i = 0; i < count; i++) {
-            checks.same(what + " kind " + i, machine.kind(i), reference.items.get(i)[0]);
-            checks.same(what + " number " + i, machine.number(i), reference.items.get(i)[1]);
-        }
-        checks.same(what + " kind behind the last", machine.kind(count), ListMachine.NONE);
-        checks.same(what + " number behind the last", machine.number(count), 0);
     }
 }
