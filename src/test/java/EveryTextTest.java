@@ -7,7 +7,7 @@ import java.util.Arrays;
 public final class EveryTextTest {
     private static final int[] ALL = allTokens();
     /** One or two tokens of each sort, so that longer texts can all be tried. */
-    private static final int[] SOME = Texts.tokens("() ' false 2 a b d if lambda define set begin cons cdr same add setcdr print callcc apply");
+    private static final int[] SOME = Texts.tokens("() ' false 2 a b d quote if lambda define set begin cons cdr same add setcdr print callcc apply");
     private static final String VALUES = "(define a '(1 2)) (define b (lambda (a) (set a (add a 1)) a)) (define d (callcc (lambda (a) a)))";
 
     private static final Checks CHECKS = new Checks();
@@ -21,7 +21,7 @@ public final class EveryTextTest {
         everyText("", ALL, 2, "");
         everyText("", ALL, 3, "");
         everyText(VALUES, ALL, 1, "");
-        everyText(VALUES, SOME, 3, "");
+        everyText(VALUES + "(", SOME, 4, ")");
         everyText(VALUES, SOME, 3, "(d 5) (cons a (cons b d))");
         CHECKS.end();
     }
